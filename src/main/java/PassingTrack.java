@@ -221,7 +221,10 @@ public final class PassingTrack {
         int bestStation = NONE;
         int bestDelay = NONE;
         for (int station = 0; station < STATIONS; station++) {
-            int delay = delayWithOneMoreTrack(station);
+            trial.copyFrom(line);
+            // A station with 4 tracks refuses one more.
+            int answer = trial.setTracks(station, line.tracksOf[station] + 1);
+            int delay = answer < 0 ? NONE : trialDelay();
             if (delay >= 0 && (bestDelay < 0 || delay < bestDelay)) {
                 bestStation = station;
                 bestDelay = delay;
@@ -248,13 +251,6 @@ public final class PassingTrack {
     private int trialDelay() {
         trialDay.run();
         return trialDay.delay();
-    }
-
-    /** The delay of the day with one more track at a station, NONE if there is no room for a track, or no delay. */
-    private int delayWithOneMoreTrack(int station) {
-        trial.copyFrom(line);
-        int answer = trial.setTracks(station, line.tracksOf[station] + 1);
-        return answer < 0 ? NONE : trialDelay();
     }
 
     // ---- texts
@@ -549,17 +545,12 @@ public final class PassingTrack {
             station[shuttle] = place;
             rides[shuttle] = false;
             due[shuttle] = readyMinute;
-            urgency[shuttle] = urgencyOf(shuttle);
-        }
-
-        private int urgencyOf(int shuttle) {
-            switch (line.whoGoesFirst) {
-                case 1:
-                    return -due[shuttle];
-                case 2:
-                    return line.wayLeft(shuttle, station[shuttle]);
-                default:
-                    return 0;
+            urgency[shuttle] = 0;
+            if (line.whoGoesFirst == 1) {
+                urgency[shuttle] = -readyMinute;
+            }
+            if (line.whoGoesFirst == 2) {
+                urgency[shuttle] = line.wayLeft(shuttle, place);
             }
         }
 
