@@ -25,10 +25,12 @@ public final class PassingTrack {
     /** A day has at most some 15 events for each shuttle. */
     private static final int MOST_EVENTS = 1000;
 
-    private final Line line = new Line();
-    private final Day day = new Day(line);
-    private final Line trial = new Line();
-    private final Day trialDay = new Day(trial);
+    private final Day day = new Day();
+    private final Line line = day.line;
+    /** A copy of the line in which something is tried, and its day. */
+    private final Day trialDay = new Day();
+    private final Line trial = trialDay.line;
+    /** The line ahead of the change that is going on. */
     private final Line before = new Line();
     private final Waits waits = new Waits();
     private final Meetings meetings = new Meetings();
@@ -496,7 +498,7 @@ public final class PassingTrack {
      * in which nobody comes into a station and nobody becomes ready.
      */
     private static final class Day {
-        final Line line;
+        final Line line = new Line();
         /** The minutes in which the shuttles come into the stations, and leave them; NONE if they do not. */
         final int[][] comes = new int[SHUTTLES][STATIONS];
         final int[][] leaves = new int[SHUTTLES][STATIONS];
@@ -514,10 +516,6 @@ public final class PassingTrack {
         /** The tracks that are taken or promised. */
         private final int[] held = new int[STATIONS];
 
-        Day(Line line) {
-            this.line = line;
-        }
-
         void run() {
             putOutside();
             last = 0;
@@ -532,7 +530,9 @@ public final class PassingTrack {
         }
 
         private void putOutside() {
-            Arrays.fill(busy, false);
+            for (int stretch = 0; stretch < STRETCHES; stretch++) {
+                busy[stretch] = false;
+            }
             Arrays.fill(held, 0);
             for (int shuttle = 0; shuttle < line.shuttles; shuttle++) {
                 Arrays.fill(comes[shuttle], NONE);

@@ -25,6 +25,8 @@ public final class LanguageTest {
         "\\bthrows?\\b", "\\btry\\b", "\\bcatch\\b", "\\bfinally\\b", "\\bsynchronized\\b", "\\bassert\\b", "->", "::",
         "\\bpackage\\b", "\\bprotected\\b", "\\bnative\\b", "\\bvolatile\\b", "\\bstatic\\s*\\{", "Exact\\b",
         "\\bSystem\\.(?!arraycopy\\b)", "\\bMath\\.(?!(max|min|abs)\\b)", "\\bArrays\\.(?!fill\\b)",
+        // It is allowed over numbers alone.
+        "\\bArrays\\.fill\\(.*\\b(true|false|null)\\b",
         "\\bimport (?!java\\.util\\.Arrays;)", "\\b(equals|hashCode|toString)\\b", "\\bwhile \\(true\\)", "for \\(;"};
 
     private static final Due due = new Due();

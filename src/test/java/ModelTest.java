@@ -18,15 +18,48 @@ public final class ModelTest {
         ModelTest test = new ModelTest();
         for (int seed = firstSeed; seed < firstSeed + runs; seed++) {
             test.run(seed);
+            test.runOrders(seed);
         }
         test.due.end("ModelTest");
     }
 
-    private void run(int seed) {
-        due.about("seed " + seed);
+    private void start(String about, int seed) {
+        due.about(about + " " + seed);
         random = new Random(seed);
         track = new PassingTrack();
         model = new Model();
+    }
+
+    /** A line with a few shuttles close to one another, so that their best order is seldom the first one. */
+    private void runOrders(int seed) {
+        start("orders", seed);
+        int shuttles = 2 + seed % 4;
+        for (int stretch = 0; stretch < 7; stretch++) {
+            int minutes = 1 + random.nextInt(30);
+            due.is("running()", track.running(stretch, minutes), model.running(stretch, minutes));
+        }
+        for (int station = 0; station < 8; station++) {
+            int tracks = 1 + random.nextInt(3);
+            due.is("tracks()", track.tracks(station, tracks), model.tracks(station, tracks));
+        }
+        for (int shuttle = 0; shuttle < shuttles; shuttle++) {
+            int begin = random.nextInt(6);
+            int end = begin + 1 + random.nextInt(2);
+            boolean up = random.nextBoolean();
+            int earliest = random.nextInt(30);
+            int stop = random.nextInt(5);
+            due.is("shuttle()", track.shuttle(up ? begin : end, up ? end : begin, earliest, stop, 0),
+                model.shuttle(up ? begin : end, up ? end : begin, earliest, stop, 0));
+        }
+        int first = random.nextInt(3);
+        due.is("first()", track.first(first), model.first(first));
+        for (int place = 0; place <= shuttles; place++) {
+            due.is("bestOrder(" + place + ")", track.bestOrder(place), model.bestOrder(place));
+        }
+    }
+
+    private void run(int seed) {
+        start("seed", seed);
         toPut = "";
         boolean crowded = random.nextBoolean();
         int shuttlesAtFirst = crowded ? 8 : random.nextInt(6);

@@ -822,6 +822,17 @@ public final class PromisesTest {
         for (int place = 0; place <= 3; place++) {
             due.is("bestOrder(" + place + ")", x.bestOrder(place), best[place]);
         }
+        // With FIRST as 1, 0 would go ahead of 1 in each order, since it is ready in minute 1.
+        x.late(0, 1);
+        x.late(1, 2);
+        x.late(2, 10);
+        x.shuttle(1, 0, 0, 0, 0);
+        x.first(1);
+        due.is("with FIRST as 1: day(1)", x.day(1), 9 + 18 + 10);
+        int[] bestWithFirst = {8 + 19, 1, 0, 2, 3};
+        for (int place = 0; place <= 4; place++) {
+            due.is("with FIRST as 0: bestOrder(" + place + ")", x.bestOrder(place), bestWithFirst[place]);
+        }
         PassingTrack y = new PassingTrack();
         y.shuttle(6, 7, 0, 0, 0);
         y.shuttle(1, 0, 0, 0, 0);
@@ -921,6 +932,7 @@ public final class PromisesTest {
         faultOf("s0>7@1+^", 7);
         faultOf("s0>7@1^", 7);
         faultOf("s0>7@1^a", 7);
+        faultOf("s0>7@1^:", 7);
         faultOf("s0>7@1^12", 8);
         faultOf("s0>7@1^1+1", 8);
         faultOf("s0>7@1+1+1", 8);
@@ -957,6 +969,9 @@ public final class PromisesTest {
         faultOf("l0+1000", 6);
         faultOf("l0+9990", 6);
         faultOf("l0+-1", 3);
+        faultOf("l0+:", 3);
+        faultOf("l0+1:", 4);
+        faultOf("l0+/", 3);
         faultOf("s0>7@05", 6);
         faultOf("s0>7@1000+1", 8);
         faultOf("s0>7@0+00", 8);
