@@ -16,7 +16,7 @@ public final class PassingTrack {
     private static final int MOST_STOP = 20;
     private static final int MOST_PRIORITY = 9;
     private static final int LATEST_START = 300;
-    private static final int LAST_MINUTE = 9999;
+    private static final int LATEST_ASKED = 9999;
     private static final int PAD_LENGTH = 80;
     private static final int HISTORY = 6;
     private static final int SLOTS = 2;
@@ -161,7 +161,7 @@ public final class PassingTrack {
         if (!line.hasShuttle(shuttle)) {
             return NO_SUCH;
         }
-        if (minute < 0 || minute > LAST_MINUTE) {
+        if (minute < 0 || minute > LATEST_ASKED) {
             return BAD_VALUE;
         }
         day.run();
@@ -183,7 +183,7 @@ public final class PassingTrack {
         if (!line.hasShuttle(shuttle)) {
             return NO_SUCH;
         }
-        if (minute < 0 || minute > LAST_MINUTE) {
+        if (minute < 0 || minute > LATEST_ASKED) {
             return BAD_VALUE;
         }
         day.run();
@@ -325,7 +325,12 @@ public final class PassingTrack {
         return stretch >= 0 && stretch < STRETCHES;
     }
 
-    /** The line with its shuttles and the setting FIRST: all that is undone, saved and tried. */
+    /**
+     * The line with its shuttles and the setting FIRST: all that is undone, saved and tried.
+     *
+     * <p>A shuttle's begin and end are two different stations, since addShuttle() takes no others; so a shuttle
+     * that is not at its end has a stretch and a station ahead of it.
+     */
     private static final class Line {
         final int[] tracksOf = new int[STATIONS];
         final int[] runningOf = new int[STRETCHES];
@@ -481,7 +486,7 @@ public final class PassingTrack {
             return goesUp(shuttle) ? station : station - 1;
         }
 
-        /** The minutes from leaving a station to the end, if nobody is in the way. */
+        /** The minutes from leaving a station on the way to the end, if nobody is in the way. */
         int wayLeft(int shuttle, int station) {
             int low = Math.min(station, end[shuttle]);
             int high = Math.max(station, end[shuttle]);
