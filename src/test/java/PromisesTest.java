@@ -45,23 +45,9 @@ public final class PromisesTest {
         due.end("PromisesTest");
     }
 
-    private static long packed(String characters) {
-        long number = 0;
-        for (int i = 0; i < characters.length(); i++) {
-            number = number << 8 | characters.charAt(i);
-        }
-        return number;
-    }
-
-    private static void putAll(PassingTrack x, String text) {
-        for (int from = 0; from < text.length(); from += 8) {
-            x.put(packed(text.substring(from, Math.min(from + 8, text.length()))));
-        }
-    }
-
     private static void faultOf(String text, int want) {
         PassingTrack x = new PassingTrack();
-        putAll(x, text);
+        Texts.putAll(x, text);
         due.is("fault() of " + text, x.fault(), want);
         due.is("fault() again", x.fault(), want);
         due.is("length behind fault()", x.count(2), text.length());
@@ -348,7 +334,7 @@ public final class PromisesTest {
         for (int stretch = 0; stretch < 7; stretch++) {
             x.running(stretch, 11 + stretch);
         }
-        x.put(packed("abc"));
+        x.put(Texts.packed("abc"));
         due.is("count(0)", x.count(0), 1);
         due.is("count(1)", x.count(1), 2);
         due.is("count(2)", x.count(2), 3);
@@ -865,26 +851,26 @@ public final class PromisesTest {
         due.is("put of 0 far below a bit", x.put(1L << 63 | 97L), BAD_VALUE);
         due.is("put of a wrong sign above", x.put(32L << 8 | 97L), BAD_VALUE);
         due.is("put of a negative number", x.put(-1L), BAD_VALUE);
-        due.is("put of a highest code above 126", x.put(128L << 56 | packed("aaaaaaa")), BAD_VALUE);
+        due.is("put of a highest code above 126", x.put(128L << 56 | Texts.packed("aaaaaaa")), BAD_VALUE);
         due.is("put of the lowest long", x.put(Long.MIN_VALUE), BAD_VALUE);
         due.is("count(2)", x.count(2), 2);
         due.is("wipe()", x.wipe(), 2);
-        due.is("put of 8", x.put(packed("~~~~~~~~")), 8);
+        due.is("put of 8", x.put(Texts.packed("~~~~~~~~")), 8);
         for (int length = 16; length <= 72; length += 8) {
-            due.is("put of 8", x.put(packed("!!!!!!!!")), length);
+            due.is("put of 8", x.put(Texts.packed("!!!!!!!!")), length);
         }
-        due.is("put of 7", x.put(packed("1234567")), 79);
-        due.is("put of 2", x.put(packed("12")), TOO_MANY);
-        due.is("put of 2 with a wrong one", x.put(packed("1\n")), BAD_VALUE);
-        due.is("put of 1", x.put(packed("1")), 80);
-        due.is("put of 1", x.put(packed("1")), TOO_MANY);
+        due.is("put of 7", x.put(Texts.packed("1234567")), 79);
+        due.is("put of 2", x.put(Texts.packed("12")), TOO_MANY);
+        due.is("put of 2 with a wrong one", x.put(Texts.packed("1\n")), BAD_VALUE);
+        due.is("put of 1", x.put(Texts.packed("1")), 80);
+        due.is("put of 1", x.put(Texts.packed("1")), TOO_MANY);
         due.is("put of 0", x.put(0L), BAD_VALUE);
         due.is("count(2)", x.count(2), 80);
         due.is("put is no change", x.count(3), 0);
         // The order of the characters.
         x.wipe();
-        x.put(packed("t3="));
-        x.put(packed("4"));
+        x.put(Texts.packed("t3="));
+        x.put(Texts.packed("4"));
         due.is("carryOut()", x.carryOut(), 1);
         due.is("count(7)", x.count(7), 4);
     }
@@ -893,13 +879,13 @@ public final class PromisesTest {
         due.about("promise 21");
         PassingTrack x = new PassingTrack();
         due.is("wipe()", x.wipe(), 0);
-        x.put(packed("x0"));
+        x.put(Texts.packed("x0"));
         due.is("wipe()", x.wipe(), 2);
         due.is("wipe()", x.wipe(), 0);
         due.is("fault()", x.fault(), 0);
         due.is("count(2)", x.count(2), 0);
         due.is("wipe is no change", x.count(3), 0);
-        putAll(x, "r0=3");
+        Texts.putAll(x, "r0=3");
         due.is("carryOut()", x.carryOut(), 1);
     }
 
@@ -984,7 +970,7 @@ public final class PromisesTest {
     private static void carryOut() {
         due.about("promise 23");
         PassingTrack x = new PassingTrack();
-        putAll(x, "s1>6@12+3^4;s6>1@300;s2>3@0^9;s3>2@7+20");
+        Texts.putAll(x, "s1>6@12+3^4;s6>1@300;s2>3@0^9;s3>2@7+20");
         due.is("carryOut()", x.carryOut(), 4);
         due.is("count(2)", x.count(2), 0);
         due.is("count(3)", x.count(3), 1);
@@ -994,7 +980,7 @@ public final class PromisesTest {
                 due.is("ofShuttle(" + shuttle + ", " + what + ")", x.ofShuttle(shuttle, what), want[shuttle][what]);
             }
         }
-        putAll(x, "l0+30;p1=7;t4=3;r5=12;x2");
+        Texts.putAll(x, "l0+30;p1=7;t4=3;r5=12;x2");
         due.is("carryOut()", x.carryOut(), 5);
         due.is("ofShuttle(0, 2)", x.ofShuttle(0, 2), 42);
         due.is("ofShuttle(1, 4)", x.ofShuttle(1, 4), 7);
@@ -1013,37 +999,37 @@ public final class PromisesTest {
         due.about("promise 23, errors");
         PassingTrack x = new PassingTrack();
         due.is("carryOut() of nothing", x.carryOut(), BAD_TEXT);
-        putAll(x, "x0");
+        Texts.putAll(x, "x0");
         due.is("none is carried out", x.carryOut(), 0);
         due.is("but it is a change", x.count(3), 1);
         due.is("and the pad is empty", x.count(2), 0);
-        putAll(x, "t0=3;t1=5;t2=3");
+        Texts.putAll(x, "t0=3;t1=5;t2=3");
         due.is("up to the first error", x.carryOut(), 1);
         due.is("count(4)", x.count(4), 3);
         due.is("count(5)", x.count(5), 2);
         due.is("count(6)", x.count(6), 2);
         due.is("the pad is empty", x.count(2), 0);
         due.is("count(3)", x.count(3), 2);
-        putAll(x, "t0=1;t1=1;");
+        Texts.putAll(x, "t0=1;t1=1;");
         due.is("a fault", x.carryOut(), BAD_TEXT);
         due.is("the pad stays", x.count(2), 10);
         due.is("nothing is carried out", x.count(4), 3);
         due.is("count(3)", x.count(3), 2);
-        putAll(x, "x0");
+        Texts.putAll(x, "x0");
         due.is("carryOut()", x.carryOut(), 2);
         due.is("undo()", x.undo(), 2);
         due.is("count(4)", x.count(4), 3);
         due.is("the pad is not given back", x.count(2), 0);
         String[] wrong = {"s0>0@0", "s0>1@301", "s0>1@0+21", "l0+1", "l0+0", "t0=0", "t0=5", "r0=0", "r0=31", "p0=1"};
         for (String text : wrong) {
-            putAll(x, text + ";r6=1");
+            Texts.putAll(x, text + ";r6=1");
             due.is("carryOut() of " + text, x.carryOut(), 0);
             due.is("count(18)", x.count(18), 10);
         }
         for (int number = 0; number < 8; number++) {
             x.shuttle(0, 1, 0, 0, 0);
         }
-        putAll(x, "x7;s0>1@300;s0>1@300;r6=1");
+        Texts.putAll(x, "x7;s0>1@300;s0>1@300;r6=1");
         due.is("a ninth shuttle", x.carryOut(), 2);
         due.is("ofShuttle(7, 2)", x.ofShuttle(7, 2), 300);
     }
@@ -1059,7 +1045,7 @@ public final class PromisesTest {
         x.late(0, 5);
         x.prefer(0, 4);
         due.is("count(3)", x.count(3), 6);
-        x.put(packed("x0"));
+        x.put(Texts.packed("x0"));
         x.save(0);
         x.day(0);
         x.bestOrder(0);
@@ -1106,7 +1092,7 @@ public final class PromisesTest {
         x.shuttle(0, 7, 0, 0, 0);
         due.is("save(1)", x.save(1), 1);
         x.shuttle(0, 7, 0, 0, 0);
-        x.put(packed("ab"));
+        x.put(Texts.packed("ab"));
         due.is("save is no change", x.count(3), 2);
         due.is("save(-1)", x.save(-1), BAD_VALUE);
         due.is("save(2)", x.save(2), BAD_VALUE);
@@ -1146,7 +1132,7 @@ public final class PromisesTest {
         x.running(6, 1);
         x.late(0, 1);
         x.remove(1);
-        x.put(packed("x"));
+        x.put(Texts.packed("x"));
         due.is("restore(1)", x.restore(1), 2);
         int[] want = {5, 2, 30, 4, 6};
         for (int what = 0; what < 5; what++) {
@@ -1172,7 +1158,7 @@ public final class PromisesTest {
         due.about("errors");
         PassingTrack x = new PassingTrack();
         x.shuttle(2, 4, 5, 6, 7);
-        x.put(packed("y"));
+        x.put(Texts.packed("y"));
         int[] errors = {x.first(3), x.tracks(0, 5), x.tracks(8, 1), x.running(7, 1), x.running(0, 31),
             x.shuttle(0, 0, 0, 0, 0), x.late(0, 296), x.late(1, 1), x.prefer(0, 10), x.prefer(1, 0), x.remove(1),
             x.put(0), x.carryOut(), x.save(2), x.restore(0), x.restore(2)};
