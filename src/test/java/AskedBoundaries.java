@@ -208,6 +208,15 @@ final class AskedBoundaries extends Boundaries {
             x.remove(3);
             x.shuttle(0, 1, 0, 0, 9);
             due.is("two, with 10 and 0", x.day(5), 10);
+            for (int number = 0; number < 8; number++) {
+                PassingTrack eight = new PassingTrack();
+                many(eight, 8, 0, 1);
+                for (int other = 0; other < 8; other++) {
+                    eight.prefer(other, other == number ? 0 : 1);
+                }
+                due.is("the greatest delay is that of " + number, eight.ofShuttle(number, 7), 70);
+                due.is("the greatest delay is that of " + number, eight.day(5), 70);
+            }
         });
     }
 

@@ -297,6 +297,14 @@ final class DayBoundaries extends Boundaries {
             PassingTrack x = waiting(0);
             due.is("not the one that is ready first", x.when(1, 2, 1), 60);
             due.is("but the one with 9", x.when(3, 2, 1), 30);
+            PassingTrack y = new PassingTrack();
+            y.first(1);
+            y.shuttle(0, 1, 0, 0, 4);
+            y.shuttle(0, 1, 0, 0, 5);
+            due.is("with FIRST as 1", y.when(1, 0, 1), 0);
+            y.first(0);
+            y.prefer(0, 6);
+            due.is("with FIRST as 0 again", y.when(0, 0, 1), 0);
         });
     }
 

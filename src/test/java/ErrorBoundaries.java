@@ -15,7 +15,8 @@ final class ErrorBoundaries extends Boundaries {
     /** The lines: new, in use, full of all that there can be, and with stuck shuttles. */
     private final Map<String, Supplier<PassingTrack>> lines = new LinkedHashMap<>();
     private final List<Function<PassingTrack, List<Integer>>> looks = List.of(
-        ErrorBoundaries::asked, ErrorBoundaries::undone, ErrorBoundaries::restored, ErrorBoundaries::carriedOut, ErrorBoundaries::padFilled);
+        ErrorBoundaries::asked, ErrorBoundaries::otherFirst, ErrorBoundaries::undone, ErrorBoundaries::restored,
+        ErrorBoundaries::carriedOut, ErrorBoundaries::padFilled);
 
     ErrorBoundaries(Due due, Sentences says) {
         super(due, says);
@@ -28,9 +29,11 @@ final class ErrorBoundaries extends Boundaries {
 
     @Override
     void all() {
+        firstErrorOfSeveral();
         errorsChangeNothing();
         fullErrorsChangeNothing();
         askingChangesNothing();
+        dayOfAllShuttles();
         tryingChangesNothing();
         noneIsNoError();
     }
@@ -65,32 +68,54 @@ final class ErrorBoundaries extends Boundaries {
         for (int what = 0; what <= 18; what++) {
             answers.add(x.count(what));
         }
-        for (int shuttle = 0; shuttle < x.count(0); shuttle++) {
+        int shuttles = x.count(0);
+        for (int shuttle = 0; shuttle < shuttles; shuttle++) {
             for (int what = 0; what <= 4; what++) {
                 answers.add(x.ofShuttle(shuttle, what));
             }
         }
     }
 
-    private static List<Integer> asked(PassingTrack x) {
-        List<Integer> answers = new ArrayList<>();
-        addLine(x, answers);
+    private static void addDay(PassingTrack x, List<Integer> answers) {
         for (int what = 0; what <= 5; what++) {
             answers.add(x.day(what));
         }
-        for (int shuttle = 0; shuttle < x.count(0); shuttle++) {
-            for (int what = 5; what <= 12; what++) {
+        int shuttles = x.count(0);
+        for (int shuttle = 0; shuttle < shuttles; shuttle++) {
+            for (int what = 6; what <= 12; what++) {
                 answers.add(x.ofShuttle(shuttle, what));
             }
+            for (int minute : new int[] {0, 5, 10, 300, 305, 330}) {
+                answers.add(x.at(shuttle, minute));
+                answers.add(x.why(shuttle, minute));
+            }
+        }
+        answers.add(x.meeting(0, 0));
+    }
+
+    private static List<Integer> asked(PassingTrack x) {
+        List<Integer> answers = new ArrayList<>();
+        addLine(x, answers);
+        addDay(x, answers);
+        int shuttles = x.count(0);
+        for (int shuttle = 0; shuttle < shuttles; shuttle++) {
             for (int station = 0; station < 8; station++) {
                 answers.add(x.when(shuttle, station, 0));
                 answers.add(x.when(shuttle, station, 1));
             }
         }
-        answers.add(x.meeting(0, 0));
         answers.add(x.bestTrack(0));
         answers.add(x.bestOrder(1));
         answers.add(x.fault());
+        return answers;
+    }
+
+    private static List<Integer> otherFirst(PassingTrack x) {
+        List<Integer> answers = new ArrayList<>();
+        for (int first : new int[] {0, 2}) {
+            answers.add(x.first(first));
+            addDay(x, answers);
+        }
         return answers;
     }
 
@@ -168,6 +193,30 @@ final class ErrorBoundaries extends Boundaries {
         }
     }
 
+    private void firstErrorOfSeveral() {
+        says.terms("it names its errors in the order in which they are checked, and the first one that applies is returned.", () -> {
+            for (String line : lines.keySet()) {
+                PassingTrack x = lines.get(line).get();
+                due.is("tracks(8, 5), " + line, x.tracks(8, 5), NO_SUCH);
+                due.is("running(7, 31), " + line, x.running(7, 31), NO_SUCH);
+                due.is("shuttle(8, 8, 301, 21, 10), " + line, x.shuttle(8, 8, 301, 21, 10), NO_SUCH);
+                due.is("shuttle(0, 0, 301, 21, 10), " + line, x.shuttle(0, 0, 301, 21, 10), BAD_VALUE);
+                due.is("late(8, 301), " + line, x.late(8, 301), NO_SUCH);
+                due.is("prefer(8, 10), " + line, x.prefer(8, 10), NO_SUCH);
+                due.is("ofShuttle(8, 13), " + line, x.ofShuttle(8, 13), NO_SUCH);
+                due.is("at(8, 10000), " + line, x.at(8, 10000), NO_SUCH);
+                due.is("when(8, 8, 2), " + line, x.when(8, 8, 2), NO_SUCH);
+                due.is("why(8, 10000), " + line, x.why(8, 10000), NO_SUCH);
+                due.is("meeting(64, 4), " + line, x.meeting(64, 4), NO_SUCH);
+                due.is("delayIfLate(8, 301), " + line, x.delayIfLate(8, 301), NO_SUCH);
+                due.is("delayIfSlow(7, 31), " + line, x.delayIfSlow(7, 31), NO_SUCH);
+                due.is("bestOrder(9), " + line, x.bestOrder(9), BAD_VALUE);
+                due.is("put(0), " + line, x.put(0), BAD_VALUE);
+                due.is("restore(2), " + line, x.restore(2), BAD_VALUE);
+            }
+        });
+    }
+
     private void errorsChangeNothing() {
         says.terms("A call that returns an error changes nothing.", () -> {
             isRefused("first(3)", x -> x.first(3), BAD_VALUE);
@@ -226,6 +275,41 @@ final class ErrorBoundaries extends Boundaries {
                 }
                 changesNothing("fault()", PassingTrack::fault);
             });
+    }
+
+    /** Four from each side of two stations with a track each: all are stuck. */
+    private static void madeStuck(PassingTrack x, int shuttle) {
+        x.shuttle(shuttle % 2 == 0 ? 2 : 5, shuttle % 2 == 0 ? 5 : 2, shuttle, shuttle % 3, shuttle);
+    }
+
+    private void dayOfAllShuttles() {
+        says.terms("with all shuttles, whenever something is asked about it", () -> {
+            for (int first = 0; first <= 2; first++) {
+                for (int removed = 0; removed < 8; removed++) {
+                    PassingTrack x = new PassingTrack();
+                    PassingTrack never = new PassingTrack();
+                    for (PassingTrack y : new PassingTrack[] {x, never}) {
+                        y.tracks(3, 1);
+                        y.tracks(4, 1);
+                        y.first(first);
+                    }
+                    for (int shuttle = 0; shuttle < 8; shuttle++) {
+                        madeStuck(x, shuttle);
+                        if (shuttle != removed) {
+                            madeStuck(never, shuttle);
+                        }
+                    }
+                    due.is("all are stuck", x.day(2), 255);
+                    due.is("the last one has no track", x.why(7, x.day(0)), 3);
+                    x.remove(removed);
+                    List<Integer> got = new ArrayList<>();
+                    List<Integer> want = new ArrayList<>();
+                    addDay(x, got);
+                    addDay(never, want);
+                    due.holds("without " + removed + ", as if it had never been there", got.equals(want));
+                }
+            }
+        });
     }
 
     private void tryingChangesNothing() {

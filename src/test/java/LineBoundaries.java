@@ -7,6 +7,8 @@ final class LineBoundaries extends Boundaries {
     @Override
     void all() {
         calls();
+        constants();
+        numbers();
         line();
         shuttles();
         newObject();
@@ -27,6 +29,28 @@ final class LineBoundaries extends Boundaries {
                 x.tracks(7, 1 + call % 4);
             }
             due.is("the 512th call", x.tracks(7, 1), 1 + 511 % 4);
+        });
+    }
+
+    private void constants() {
+        says.terms("`NO_SUCH = -1, BAD_VALUE = -2, BAD_TEXT = -3, TOO_MANY = -4, NOT_POSSIBLE = -5, NONE = -6`", () -> {
+            int[] constants = {PassingTrack.NO_SUCH, PassingTrack.BAD_VALUE, PassingTrack.BAD_TEXT, PassingTrack.TOO_MANY,
+                PassingTrack.NOT_POSSIBLE, PassingTrack.NONE};
+            row("the constant", which -> constants[which], -1, -2, -3, -4, -5, -6);
+        });
+    }
+
+    private void numbers() {
+        says.terms("Everything is numbered from 0.", () -> {
+            PassingTrack x = one(0, 2, 0, 0);
+            x.shuttle(2, 0, 0, 0, 0);
+            due.is("stations", x.tracks(0, 2), 2);
+            due.is("stretches", x.running(0, 10), 10);
+            due.is("shuttles", x.ofShuttle(0, 1), 2);
+            due.is("meetings", x.meeting(0, 0), 10);
+            due.is("slots", x.save(0), 2);
+            due.is("minutes", x.at(0, 0), 1);
+            due.is("characters", x.fault(), 0);
         });
     }
 

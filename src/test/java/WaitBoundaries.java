@@ -143,6 +143,12 @@ final class WaitBoundaries extends Boundaries {
             y.shuttle(0, 1, 0, 0, 0);
             due.is("for 2: ofShuttle(0, 12)", y.ofShuttle(0, 12), 1);
             due.is("a minute: ofShuttle(0, 10)", y.ofShuttle(0, 10), 1);
+            PassingTrack others = one(5, 4, 0, 0);
+            others.running(0, 30);
+            many(others, 2, 0, 1);
+            others.shuttle(1, 2, 0, 0, 0);
+            due.is("others on other stretches are not: why(2, 0)", others.why(2, 0), 2);
+            row("others on other stretches are not: ofShuttle(2, 8 + .)", what -> others.ofShuttle(2, 8 + what), 30, 0, 30, 0, 1);
             PassingTrack z = one(0, 2, 0, 20);
             z.tracks(1, 1);
             z.shuttle(0, 2, 10, 0, 0);

@@ -181,6 +181,8 @@ final class WhatIfBoundaries extends Boundaries {
                 PassingTrack x = orderMatters();
                 x.first(first);
                 row("FIRST is " + first + ": bestOrder(.)", x::bestOrder, 30, 1, 2, 0, BAD_VALUE);
+                due.is("something is tried with FIRST as " + first, x.delayIfLate(0, 300), 0);
+                row("FIRST is " + first + " still: bestOrder(.)", x::bestOrder, 30, 1, 2, 0, BAD_VALUE);
             }
         });
         says.promise(19, "(the first one has the greatest, all are different)", () -> {
