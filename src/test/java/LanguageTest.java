@@ -7,6 +7,9 @@ import java.nio.file.Files;
 import java.nio.file.Path;
 import java.util.Arrays;
 import java.util.List;
+import java.util.Map;
+import java.util.Set;
+import java.util.TreeMap;
 import java.util.TreeSet;
 import java.util.regex.Matcher;
 import java.util.regex.Pattern;
@@ -29,6 +32,10 @@ public final class LanguageTest {
         "\\bArrays\\.fill\\(.*\\b(true|false|null)\\b",
         "\\bimport (?!java\\.util\\.Arrays;)", "\\b(equals|hashCode|toString)\\b", "\\bwhile \\(true\\)", "for \\(;"};
 
+    private static final Pattern METHOD =
+        Pattern.compile("^( {4,8})(private |public |static )*\\w+(\\[\\])* (\\w+)\\((.*)\\) \\{$");
+    private static final int DEEPEST = 8;
+
     private static final Due due = new Due();
 
     public static void main(String[] args) throws IOException {
@@ -43,6 +50,7 @@ public final class LanguageTest {
         ruledOut(text);
         objects(text);
         methods(text);
+        depth(text);
         due.end("LanguageTest");
     }
 
@@ -151,23 +159,60 @@ public final class LanguageTest {
 
     private static void methods(String text) {
         due.about("rule 11");
-        Pattern head = Pattern.compile("^( {4,8})(private |public |static )*\\w+(\\[\\])* \\w+\\((.*)\\) \\{$");
         int length = 0;
         String end = "";
         int found = 0;
         for (String line : text.split("\n")) {
-            Matcher matcher = head.matcher(line);
+            Matcher matcher = METHOD.matcher(line);
             length++;
             if (end.isEmpty() && matcher.find()) {
                 end = matcher.group(1) + "}";
                 length = 1;
                 found++;
-                due.is("at most seven parameters: " + line, matcher.group(4).split(",").length <= 7 ? 1 : 0, 1);
+                due.is("at most seven parameters: " + line, matcher.group(5).split(",").length <= 7 ? 1 : 0, 1);
             } else if (line.equals(end)) {
                 due.is("a method of " + length + " lines", length <= 60 ? 1 : 0, 1);
                 end = "";
             }
         }
         due.is("methods are found", found > 60 ? 1 : 0, 1);
+    }
+
+    /** Methods of one name count as one, which can only make the calls deeper. */
+    private static void depth(String text) {
+        due.about("rule 11, calls");
+        Map<String, Set<String>> calls = new TreeMap<>();
+        String inside = "";
+        String end = "";
+        for (String line : text.split("\n")) {
+            Matcher head = METHOD.matcher(line);
+            if (end.isEmpty() && head.find()) {
+                inside = head.group(4);
+                end = head.group(1) + "}";
+                calls.putIfAbsent(inside, new TreeSet<>());
+            } else if (line.equals(end)) {
+                end = "";
+            } else if (!end.isEmpty()) {
+                Matcher call = Pattern.compile("(?<!new )\\b(\\w+)\\(").matcher(line);
+                while (call.find()) {
+                    calls.get(inside).add(call.group(1));
+                }
+            }
+        }
+        for (String name : calls.keySet()) {
+            int levels = levels(calls, name, 1);
+            due.is("calls from " + name + "() go " + levels + " deep", levels <= DEEPEST ? 1 : 0, 1);
+        }
+    }
+
+    /** How deep the calls from a method go, itself one level; methods that call one another come out too deep. */
+    private static int levels(Map<String, Set<String>> calls, String name, int level) {
+        int deepest = level;
+        for (String called : calls.getOrDefault(name, Set.of())) {
+            if (calls.containsKey(called) && level <= DEEPEST) {
+                deepest = Math.max(deepest, levels(calls, called, level + 1));
+            }
+        }
+        return deepest;
     }
 }

@@ -1,4 +1,5 @@
 import java.util.Random;
+import java.util.TreeSet;
 
 /** Random runs of calls, in which the class has to answer as the model does. */
 public final class ModelTest {
@@ -19,6 +20,10 @@ public final class ModelTest {
         for (int seed = firstSeed; seed < firstSeed + runs; seed++) {
             test.run(seed);
             test.runOrders(seed);
+            // All of a day takes the model as long as some runs.
+            if (seed % 8 == 0) {
+                test.runWholeDay(seed);
+            }
         }
         test.due.end("ModelTest");
     }
@@ -56,6 +61,80 @@ public final class ModelTest {
         for (int place = 0; place <= shuttles; place++) {
             due.is("bestOrder(" + place + ")", track.bestOrder(place), model.bestOrder(place));
         }
+    }
+
+    /** All that can be asked about the day of a line; a new object for each part, since an object takes 512 calls. */
+    private void runWholeDay(int seed) {
+        makeLine(seed);
+        for (int what = 0; what < 6; what++) {
+            due.is("day(" + what + ")", track.day(what), model.day(what));
+        }
+        for (int meeting = 0; meeting <= model.day(3); meeting++) {
+            for (int what = 0; what < 4; what++) {
+                due.is("meeting(" + meeting + ", " + what + ")", track.meeting(meeting, what), model.meeting(meeting, what));
+            }
+        }
+        int shuttles = model.count(0);
+        for (int shuttle = 0; shuttle < shuttles; shuttle++) {
+            askAllOf(shuttle);
+        }
+        for (int shuttle = 0; shuttle < shuttles; shuttle++) {
+            makeLine(seed);
+            askMinutes(shuttle);
+        }
+    }
+
+    /** Many shuttles at about the same time, and few tracks. */
+    private void makeLine(int seed) {
+        start("whole day", seed);
+        int first = random.nextInt(3);
+        due.is("first(" + first + ")", track.first(first), model.first(first));
+        for (int station = 0; station < 8; station++) {
+            int tracks = 1 + random.nextInt(1 + random.nextInt(4));
+            due.is("tracks()", track.tracks(station, tracks), model.tracks(station, tracks));
+        }
+        for (int stretch = 0; stretch < 7; stretch++) {
+            int minutes = 1 + random.nextInt(30);
+            due.is("running()", track.running(stretch, minutes), model.running(stretch, minutes));
+        }
+        int shuttles = 1 + random.nextInt(8);
+        for (int shuttle = 0; shuttle < shuttles; shuttle++) {
+            makeShuttle();
+        }
+    }
+
+    private void askAllOf(int shuttle) {
+        for (int what = 0; what < 13; what++) {
+            due.is("ofShuttle(" + shuttle + ", " + what + ")", track.ofShuttle(shuttle, what), model.ofShuttle(shuttle, what));
+        }
+        for (int station = 0; station < 8; station++) {
+            for (int what = 0; what < 2; what++) {
+                due.is("when(" + shuttle + ", " + station + ", " + what + ")",
+                    track.when(shuttle, station, what), model.when(shuttle, station, what));
+            }
+        }
+    }
+
+    /** Where a shuttle is, and why it waits, around the minutes in which something becomes different. */
+    private void askMinutes(int shuttle) {
+        TreeSet<Integer> minutes = new TreeSet<>();
+        addAround(minutes, model.day(0));
+        addAround(minutes, model.ofShuttle(shuttle, 2));
+        for (int station = 0; station < 8; station++) {
+            addAround(minutes, model.when(shuttle, station, 0));
+            addAround(minutes, model.when(shuttle, station, 0) + model.ofShuttle(shuttle, 3));
+            addAround(minutes, model.when(shuttle, station, 1));
+        }
+        for (int minute : minutes) {
+            due.is("at(" + shuttle + ", " + minute + ")", track.at(shuttle, minute), model.at(shuttle, minute));
+            due.is("why(" + shuttle + ", " + minute + ")", track.why(shuttle, minute), model.why(shuttle, minute));
+        }
+    }
+
+    private static void addAround(TreeSet<Integer> minutes, int minute) {
+        minutes.add(minute - 1);
+        minutes.add(minute);
+        minutes.add(minute + 1);
     }
 
     private void run(int seed) {
